@@ -19,10 +19,12 @@ public final class GameNet {
     private static final int MOST_STEPS = 100;
     private static final int MOST_STEPS_TO_TIP = 1024;
 
+    /** The rules by number; the one that is left, 2, is BAR. */
     private static final int REPLY = 0;
     private static final int COPY = 1;
-    private static final int OVER_BAR = 2;
     private static final int IN_TURN = 3;
+
+    /** Those ahead of IN TURN, by which all move at once. */
     private static final int RULES_AT_ONCE = 3;
 
     private static final int HOW_MANY = -1;

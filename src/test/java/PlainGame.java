@@ -427,7 +427,8 @@ final class PlainGame {
         TreeMap<Integer, List<Way>> ends = new TreeMap<>();
         for (int from : beginnings()) {
             Way way = walk(rule, held, from);
-            ends.computeIfAbsent(new TreeSet<>(way.ring).first(), end -> new ArrayList<>()).add(way);
+            int least = new TreeSet<>(way.ring).first();
+            ends.computeIfAbsent(least, end -> new ArrayList<>()).add(way);
         }
         return ends;
     }

@@ -2,7 +2,8 @@ import java.util.Random;
 
 /** Long mixed runs of calls, each answer held against the plain game's; always the same runs. */
 public final class PlainGameTest {
-    private static final int CALLS = 512;
+    /** With the fourteen at its end a run has 512 calls: as many as an object is used for. */
+    private static final int CALLS = 498;
     private static final int[] EDGES = {Integer.MIN_VALUE, -7, -6, -3, -2, -1, 0, 1, 2, 3, 4, 9,
         10, 11, 13, 14, 99, 100, 101, 1023, 1024, Integer.MAX_VALUE};
 
@@ -69,7 +70,7 @@ public final class PlainGameTest {
         int b = player();
         switch (dice.nextInt(24)) {
             case 0:
-                int count = dice.nextInt(9) == 0 ? EDGES[dice.nextInt(EDGES.length)] : 2 + dice.nextInt(most - 1);
+                int count = number(2, most);
                 if (count <= most || count > 10) {
                     same("players", net.players(count), plain.players(count), count);
                 }
@@ -120,8 +121,8 @@ public final class PlainGameTest {
         int player = player();
         switch (dice.nextInt(17)) {
             case 0:
-                int other = player();
-                same("weight", net.weight(player, other), plain.weight(player, other), player, other);
+                int b = player();
+                same("weight", net.weight(player, b), plain.weight(player, b), player, b);
                 break;
             case 1:
                 int whose = number(0, 1);
