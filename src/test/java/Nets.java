@@ -12,6 +12,55 @@ final class Nets {
         return net;
     }
 
+    /** Lines of one weight between all. */
+    static GameNet full(int players, int weight) {
+        GameNet net = new GameNet();
+        net.players(players);
+        for (int a = 0; a < players; a++) {
+            for (int b = 0; b < a; b++) {
+                net.line(a, b, weight);
+            }
+        }
+        return net;
+    }
+
+    /** The last has lines of one weight with all others, who have none among themselves. */
+    static GameNet star(int players, int weight) {
+        GameNet net = new GameNet();
+        net.players(players);
+        for (int player = 0; player < players - 1; player++) {
+            net.line(player, players - 1, weight);
+        }
+        return net;
+    }
+
+    /** Ten in a row, with weights from 9 down to 1: each heeds the one ahead of it more. */
+    static GameNet fallingRow() {
+        GameNet net = new GameNet();
+        net.players(10);
+        for (int player = 0; player < 9; player++) {
+            net.line(player, player + 1, 9 - player);
+        }
+        return net;
+    }
+
+    /** Ten in a row, with weights from 1 up to 9: each heeds the one behind it more. */
+    static GameNet risingRow() {
+        GameNet net = new GameNet();
+        net.players(10);
+        for (int player = 0; player < 9; player++) {
+            net.line(player, player + 1, player + 1);
+        }
+        return net;
+    }
+
+    static void holdAll(GameNet net) {
+        int players = net.told(0);
+        for (int player = 0; player < players; player++) {
+            net.hold(player, true);
+        }
+    }
+
     static void pays(GameNet net, int zeroZero, int zeroOne, int oneZero, int oneOne) {
         net.pay(0, 0, zeroZero);
         net.pay(0, 1, zeroOne);
