@@ -54,6 +54,39 @@ final class Nets {
         return net;
     }
 
+    /** Ten players, all lines; playing 1 is paid best beside anyone, and every bar is reached. */
+    static GameNet allWantOne() {
+        GameNet net = full(10, 9);
+        pays(net, -9, -9, 9, 9);
+        net.bar(0);
+        return net;
+    }
+
+    /** Six players, COPY: 1, 3, 33, 47, 45, 13, 15 and 1 again. */
+    static GameNet ringOfSeven() {
+        GameNet net = new GameNet();
+        net.players(6);
+        net.line(0, 1, 1);
+        net.line(1, 4, 1);
+        net.line(1, 5, 1);
+        net.line(5, 2, 1);
+        net.line(5, 3, 1);
+        pays(net, -4, 3, 2, -6);
+        return net;
+    }
+
+    /** Five players, COPY: 1, 17, 3, 23, 7, 5 and 23 again. */
+    static GameNet ringOfThree() {
+        GameNet net = new GameNet();
+        net.players(5);
+        net.line(1, 2, 1);
+        net.line(4, 0, 1);
+        net.line(4, 1, 1);
+        net.line(4, 3, 1);
+        pays(net, -4, 4, 4, -5);
+        return net;
+    }
+
     static void holdAll(GameNet net) {
         int players = net.told(0);
         for (int player = 0; player < players; player++) {

@@ -10,6 +10,7 @@ public final class RisesEdgesTest {
         promise18UnlikeWaysAreNought();
         promise18NoLines();
         promise18HeldOnesToo();
+        promise18GrowsAsTheWageGrows();
         promise19TheLeastOfSeveral();
         promise19BelowNought();
         promise19AllHeld();
@@ -81,6 +82,24 @@ public final class RisesEdgesTest {
         GameNet net = Nets.full(10, 1);
         Nets.holdAll(net);
         Due.is("18: all held", net.rise(), 45);
+    }
+
+    /** "(Whoever changes alone, its WAGE and RISE grow alike.)": by the greatest PAYS too. */
+    private static void promise18GrowsAsTheWageGrows() {
+        int[][] games = {{9, -9, -9, 9}, {-9, 9, 9, -9}, {9, -9, 9, -9}, {-9, -9, 9, 9}};
+        for (int[] game : games) {
+            GameNet net = Nets.risingRow();
+            Nets.pays(net, game[0], game[1], game[2], game[3]);
+            for (int bits : new int[] {0, 341, 512, 1022, 1023}) {
+                for (int player = 0; player < 10; player++) {
+                    net.state(bits);
+                    int from = net.rise();
+                    int grown = net.wage(player, 1) - net.wage(player, 0);
+                    net.state(bits ^ 1 << player);
+                    Due.is("18: " + player + " changes in " + bits, net.rise() - from, grown);
+                }
+            }
+        }
     }
 
     /** "(the least of several)". */
@@ -316,8 +335,11 @@ public final class RisesEdgesTest {
         share("1 of 0", -3, -3, 1, 1, 0, 0);
         share("-1 of 0", -3, -3, 0, 0, 1, 1);
         share("-1 of 1", -3, -3, 0, 0, 1, 2);
+        share("-2 of 3", -3, -3, 0, 0, 2, 5);
+        share("-9 of 4", -3, -3, -9, -9, 0, 4);
         share("2 of 1", -3, -3, 2, 1, 0, 0);
         share("-1 of 17", -3, -3, 0, -9, 1, 9);
+        share("5 of 3", -3, -3, 5, 2, 0, 0);
         share("18 of 17", -3, -3, 9, 1, -9, 0);
         share("0 of -1", -3, -3, 0, 1, 0, 0);
         share("-1 of -1", -3, -3, 0, 0, 1, 0);
